@@ -1403,6 +1403,7 @@ public final class ChunkCode {
             boolean more = true;
             for (int n = 0; more && n <= MOST_WORDS; n++) {
                 unaryOperators();
+                int form = BRACKETS;
                 row = false;
                 switch (words.kind()) {
                     case Kind.FUNCTION:
@@ -1414,7 +1415,7 @@ public final class ChunkCode {
                         break;
                     case Kind.NAME:
                     case Kind.ROUND:
-                        int form = prefix();
+                        form = prefix();
                         settle(form);
                         row = form == CALL;
                         break;
@@ -1810,11 +1811,15 @@ public final class ChunkCode {
                 case Op.SETOUTER:
                     return !body.outers.has(a);
                 case Op.CLOSURE:
-                    Body made = bodies.at(a);
-                    return made == null || made.around != body.number;
+                    return isNotIn(body, a);
                 default:
                     return false;
             }
+        }
+
+        private boolean isNotIn(Body body, int number) {
+            Body made = bodies.at(number);
+            return made == null || made.around != body.number;
         }
 
         private static boolean isNoSlot(Body body, int first, int last) {
