@@ -18,12 +18,25 @@ public final class Promise8CodeTest {
         fors(check);
         returns(check);
         gotos(check);
+        hiddenLocalsHaveNoName(check);
         noneSuch(check);
         check.end();
     }
 
     private static void code(Check check, int f, String source, String due) {
         check.same("function " + f + " of " + source, due, Check.listing(Check.compiled(source), f));
+    }
+
+    // Any number may be a name's text, so none of them may mean a hidden local.
+    private static void hiddenLocalsHaveNoName(Check check) {
+        for (int text = -10; text <= 10; text++) {
+            ChunkCode chunk = new ChunkCode();
+            Check.give(chunk, "for i in z do for i = 1 , 2 do local x");
+            chunk.word(1, text);
+            Check.give(chunk, "= 1 end end");
+            check.same("a name with text " + text, 1, chunk.compile());
+            check.same("a global with text " + text, text == 9 ? 29 : 31, chunk.code(0, 17, 0));
+        }
     }
 
     private static void noneSuch(Check check) {
