@@ -1,3 +1,6 @@
+import java.lang.reflect.Field;
+import java.lang.reflect.Method;
+
 /** What the tests share: programs written as text, code written as text, and counting of wrong answers. */
 final class Check {
     private static final String[] RESERVED = {
@@ -57,6 +60,31 @@ final class Check {
         return chunk;
     }
 
+    /** What compile and place answer of a text: its fault and where, or how many functions. */
+    static String outcome(String source) {
+        ChunkCode chunk = new ChunkCode();
+        give(chunk, source);
+        int answer = chunk.compile();
+        return answer < 0 ? "fault " + -answer + " at " + chunk.place() : "no fault";
+    }
+
+    void fault(int kind, int place, String source) {
+        same(source, "fault " + kind + " at " + place, outcome(source));
+    }
+
+    void noFault(String source) {
+        same(source, "no fault", outcome(source));
+    }
+
+    void code(int f, String source, String due) {
+        same("function " + f + " of " + source, due, listing(compiled(source), f));
+    }
+
+    /** How many words a text has. */
+    static int length(String source) {
+        return source.isBlank() ? 0 : source.trim().split("\\s+").length;
+    }
+
     static String times(int count, String part) {
         return (part + " ").repeat(count);
     }
@@ -106,6 +134,27 @@ final class Check {
             }
         }
         return rows.toString();
+    }
+
+    // No run of calls makes an instruction that is flawed, so a test that wants one must reach into the object.
+    static void damage(ChunkCode chunk, int f, int i, int what, int value) throws ReflectiveOperationException {
+        Object bodies = field(chunk, "bodies");
+        Method at = bodies.getClass().getDeclaredMethod("at", int.class);
+        at.setAccessible(true);
+        Object instructions = field(at.invoke(bodies, f), "instructions");
+        Method set = instructions.getClass().getDeclaredMethod("set", int.class, int.class, int.class);
+        set.setAccessible(true);
+        set.invoke(instructions, i, what, value);
+    }
+
+    static int op(String name) {
+        return indexOf(OPS, name);
+    }
+
+    private static Object field(Object owner, String name) throws ReflectiveOperationException {
+        Field field = owner.getClass().getDeclaredField(name);
+        field.setAccessible(true);
+        return field.get(owner);
     }
 
     private static int number(String letters) {

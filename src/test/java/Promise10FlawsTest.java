@@ -1,6 +1,3 @@
-import java.lang.reflect.Field;
-import java.lang.reflect.Method;
-
 /** Promise 10: flaws answers how many instructions are flawed: of compiled words none ever is. */
 public final class Promise10FlawsTest {
     public static void main(String[] args) throws ReflectiveOperationException {
@@ -13,6 +10,8 @@ public final class Promise10FlawsTest {
         stack(check);
         lastOne(check);
         ofAllFunctions(check);
+        upToTheEdge(check);
+        countedOnce(check);
         check.end();
     }
 
@@ -72,8 +71,8 @@ public final class Promise10FlawsTest {
     private static void outersAndClosures(Check check) throws ReflectiveOperationException {
         String source = "local a b = function ( ) a = a end c = function ( ) d = function ( ) end end";
         ChunkCode chunk = Check.compiled(source);
-        damage(chunk, 1, 0, 1, 1);
-        damage(chunk, 1, 1, 1, -1);
+        Check.damage(chunk, 1, 0, 1, 1);
+        Check.damage(chunk, 1, 1, 1, -1);
         check.same("outer locals that it has not", 2, chunk.flaws());
         for (int wrong : new int[] {-1, 0, 3, 4}) {
             flawed(check, source, 2, 1, wrong);
@@ -82,23 +81,23 @@ public final class Promise10FlawsTest {
 
     private static void stack(Check check) throws ReflectiveOperationException {
         ChunkCode low = Check.compiled("f ( ) return");
-        damage(low, 0, 1, 1, 1);
+        Check.damage(low, 0, 1, 1, 1);
         check.same("each one behind which the stack is below 0", 3, low.flaws());
         ChunkCode chunk = Check.compiled("goto a :: a :: goto a");
-        damage(chunk, 0, 1, 0, 1);
+        Check.damage(chunk, 0, 1, 0, 1);
         check.same("a STEP where it is not 0", 1, chunk.flaws());
     }
 
     private static void lastOne(Check check) throws ReflectiveOperationException {
         ChunkCode chunk = Check.compiled("a = 1");
-        damage(chunk, 0, 2, 0, 1);
+        Check.damage(chunk, 0, 2, 0, 1);
         check.same("a last one that is no RETURN", 1, chunk.flaws());
     }
 
     private static void ofAllFunctions(Check check) throws ReflectiveOperationException {
         ChunkCode chunk = Check.compiled("a = function ( ) return b and c end return b and c");
-        damage(chunk, 0, 3, 1, 99);
-        damage(chunk, 1, 1, 1, 99);
+        Check.damage(chunk, 0, 3, 1, 99);
+        Check.damage(chunk, 1, 1, 1, 99);
         check.same("of all functions", 2, chunk.flaws());
         chunk.compile();
         check.same("gone with the code", 0, chunk.flaws());
@@ -107,24 +106,52 @@ public final class Promise10FlawsTest {
     private static void flawed(Check check, String source, int i, int what, int value)
         throws ReflectiveOperationException {
         ChunkCode chunk = Check.compiled(source);
-        damage(chunk, 0, i, what, value);
+        Check.damage(chunk, 0, i, what, value);
         check.same(source + ": instruction " + i + " with " + value + " for " + what, 1, chunk.flaws());
     }
 
-    // No run of calls makes a flaw, so the test must reach into the object to see one counted.
-    private static void damage(ChunkCode chunk, int f, int i, int what, int value) throws ReflectiveOperationException {
-        Object bodies = field(chunk, "bodies");
-        Method at = bodies.getClass().getDeclaredMethod("at", int.class);
-        at.setAccessible(true);
-        Object instructions = field(at.invoke(bodies, f), "instructions");
-        Method set = instructions.getClass().getDeclaredMethod("set", int.class, int.class, int.class);
-        set.setAccessible(true);
-        set.invoke(instructions, i, what, value);
+    /** What leads, or lies, just inside is no flaw; one further it is. */
+    private static void edge(Check check, String source, int i, int what, int inside) throws ReflectiveOperationException {
+        ChunkCode chunk = Check.compiled(source);
+        Check.damage(chunk, 0, i, what, inside);
+        check.same(source + ": instruction " + i + " with " + inside + " for " + what, 0, chunk.flaws());
+        flawed(check, source, i, what, inside + 1);
     }
 
-    private static Object field(Object owner, String name) throws ReflectiveOperationException {
-        Field field = owner.getClass().getDeclaredField(name);
-        field.setAccessible(true);
-        return field.get(owner);
+    private static void upToTheEdge(Check check) throws ReflectiveOperationException {
+        // The last instruction is one to lead to, and the next number none.
+        edge(check, "return a and b", 1, 1, 4);
+        edge(check, "return a or b", 1, 1, 4);
+        edge(check, "while a do end", 2, 1, 4);
+        edge(check, "while a do end", 3, 1, 4);
+        edge(check, "repeat local a until a", 4, 1, 8);
+        edge(check, "for i = 1 , 2 do end", 3, 2, 9);
+        edge(check, "for i = 1 , 2 do end", 7, 2, 9);
+        edge(check, "for i in a do end", 7, 2, 12);
+        // Slots below the most locals; a LEAVE up to them.
+        edge(check, "local a , b return a", 3, 1, 1);
+        edge(check, "local a , b a = 1", 4, 1, 1);
+        edge(check, "local a < close > , b", 3, 1, 1);
+        edge(check, "local a local b", 1, 1, 1);
+        edge(check, "do local a end", 2, 1, 1);
+        edge(check, "for i = 1 , 2 do end", 3, 1, 3);
+        edge(check, "for i = 1 , 2 do local a end", 5, 1, 1);
+        edge(check, "for i = 1 , 2 do end", 6, 1, 4);
+        edge(check, "for i = 1 , 2 do end", 7, 1, 3);
+        edge(check, "for i = 1 , 2 do end", 8, 1, 3);
+        edge(check, "for i in a do end", 4, 1, 1);
+        edge(check, "for i in a do local b end", 6, 1, 1);
+        edge(check, "for i in a do end", 6, 2, 1);
+        edge(check, "for i in a do local b end", 7, 1, 1);
+        edge(check, "for i in a do end", 8, 1, 5);
+        edge(check, "for i in a do end", 11, 1, 4);
+    }
+
+    // How many instructions are flawed, not how many flaws they have.
+    private static void countedOnce(Check check) throws ReflectiveOperationException {
+        ChunkCode chunk = Check.compiled("a = 1");
+        Check.damage(chunk, 0, 2, 0, Check.op("SETLOCAL"));
+        Check.damage(chunk, 0, 2, 1, 77);
+        check.same("no such slot, a stack below 0, and the last one", 1, chunk.flaws());
     }
 }

@@ -3,6 +3,7 @@ public final class Promise2WordTest {
     public static void main(String[] args) {
         Check check = new Check();
         kinds(check);
+        besideTheRanges(check);
         texts(check);
         badAddsNothing(check);
         countsAnewAfterCompile(check);
@@ -18,6 +19,25 @@ public final class Promise2WordTest {
         for (int kind : new int[] {Integer.MIN_VALUE, Integer.MAX_VALUE, 1 << 16, 257, -1, 0}) {
             check.same("kind " + kind, ChunkCode.BAD, new ChunkCode().word(kind, 0));
         }
+    }
+
+    // Below, between and above the three ranges: no word more, whatever the text.
+    private static void besideTheRanges(Check check) {
+        ChunkCode chunk = new ChunkCode();
+        int[] inside = {1, 2, 3, 10, 11, 30, 31, 40, 41, 71, 72};
+        int[] beside = {0, 4, 9, 32, 39, 73, -1, -10, 100, Integer.MIN_VALUE, Integer.MAX_VALUE};
+        for (int i = 0; i < inside.length; i++) {
+            check.same("kind " + beside[i], ChunkCode.BAD, chunk.word(beside[i], i));
+            check.same("kind " + inside[i], i + 1, chunk.word(inside[i], beside[i]));
+            check.same("kind " + beside[i] + " again", ChunkCode.BAD, chunk.word(beside[i], -i));
+        }
+        for (int kind = 4; kind <= 9; kind++) {
+            check.same("between the first two: " + kind, ChunkCode.BAD, chunk.word(kind, 0));
+        }
+        for (int kind = 32; kind <= 39; kind++) {
+            check.same("between the last two: " + kind, ChunkCode.BAD, chunk.word(kind, 0));
+        }
+        check.same("all that were inside", inside.length + 1, chunk.word(72, 0));
     }
 
     private static void texts(Check check) {
