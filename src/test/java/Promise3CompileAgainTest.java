@@ -8,6 +8,7 @@ public final class Promise3CompileAgainTest {
         afterAFault();
         manyTimes();
         nothingIsLeft();
+        nothingOfAFunctionIsLeft();
         wordsCountFromNothing();
         askingChangesNothing();
         allCallsOfAnObject();
@@ -102,6 +103,28 @@ public final class Promise3CompileAgainTest {
         CHECK.same(second + " behind " + first + ": no fault", "true", String.valueOf(chunk.compile() > 0));
         CHECK.same(second + " behind " + first, due, Check.listing(chunk, 0));
         CHECK.same("its words", Check.length(second), chunk.place());
+    }
+
+    private static void nothingOfAFunctionIsLeft() {
+        ChunkCode chunk = Check.compiled("local a function b : c ( d , ... ) local e = a end");
+        Check.give(chunk, "function a ( ) end");
+        CHECK.same("compile", 2, chunk.compile());
+        int[] due = {0, 0, 0, 3, 0, 0, 1, 0};
+        for (int what = 0; what < due.length; what++) {
+            CHECK.same("function 1 " + what, due[what], chunk.function(1, what));
+        }
+        Check.give(chunk, "function a ( ... ) return ... end");
+        CHECK.same("with three dots", 2, chunk.compile());
+        Check.give(chunk, "function a ( ) return ... end");
+        CHECK.same("without them", -15, chunk.compile());
+        ChunkCode refused = Check.compiled("local x function a ( b ) local function c ( d ) return ( x");
+        Check.give(refused, "local c function d ( ) return c end");
+        CHECK.same("compile behind open functions", 2, refused.compile());
+        CHECK.same("around the chunk", -1, refused.function(0, 0));
+        CHECK.same("around function 1", 0, refused.function(1, 0));
+        CHECK.same("its outer locals", 1, refused.function(1, 5));
+        CHECK.same("from a slot", 1, refused.outer(1, 0, 0));
+        CHECK.same("slot 0", 0, refused.outer(1, 0, 1));
     }
 
     private static void wordsCountFromNothing() {

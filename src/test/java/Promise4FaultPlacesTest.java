@@ -198,6 +198,7 @@ public final class Promise4FaultPlacesTest {
         CHECK.fault(14, 1, "repeat goto a until d local b :: a :: c ( )");
         CHECK.fault(14, 4, "function d ( ) goto a local b :: a :: c ( ) end");
         CHECK.fault(14, 0, "goto a :: d :: local b :: a :: c ( )");
+        CHECK.fault(14, 3, "do goto d goto a :: d :: end local b :: a :: c ( )");
         CHECK.fault(14, 4, "local b goto a goto d :: a :: local b :: d :: c ( )");
     }
 
@@ -217,6 +218,8 @@ public final class Promise4FaultPlacesTest {
         CHECK.noFault("for i = 1 , 2 do goto a :: a :: c ( ) end");
         CHECK.noFault("for i in b do goto a :: a :: c ( ) end");
         CHECK.noFault("function b : d ( e ) goto a :: a :: c ( ) end");
+        CHECK.noFault("function b ( d , e , f ) do goto a end :: a :: c ( ) end");
+        CHECK.noFault("local b do goto a local d goto e :: a :: end :: e :: c ( )");
     }
 
     // 15: "... in a function whose names have none: at it"

@@ -28,6 +28,7 @@ public final class Promise8ListValuesTest {
                 ofForWithAList(m, last);
             }
         }
+        noListBehindARow();
         manyValues();
         CHECK.end();
     }
@@ -39,6 +40,12 @@ public final class Promise8ListValuesTest {
     // "(For no list: n times NIL.)"
     private static void noList(int n) {
         CHECK.code(0, "local " + join(n, "a", "a"), "NIL; ".repeat(n) + "DECLARE 0 " + n + "; RETURN 0 0 " + 2 * n);
+    }
+
+    // What a list before it ended with is no matter.
+    private static void noListBehindARow() {
+        CHECK.code(0, "local a = ... local b",
+            "DOTS; FIT 1; DECLARE 0 1; NIL; DECLARE 1 1 4; RETURN 0 0 6");
     }
 
     private static void ofLocal(int n, int m, String last) {

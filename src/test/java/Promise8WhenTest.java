@@ -93,6 +93,8 @@ public final class Promise8WhenTest {
         CHECK.code(0, "a [ 1 ] , b [ 2 ] , c [ 3 ] = ...",
             "GLOBAL 1; NUMBER 1; GLOBAL 2 0 5; NUMBER 2; GLOBAL 3 0 10; NUMBER 3; DOTS; FIT 3; PUT 2 0 11; PUT 3 0 6; "
             + "PUT 4 0 1; DROP 6; RETURN 0 0 16");
+        CHECK.code(1, "a . b , c . d = 1 , function ( ) e . f = 1 end",
+            "GLOBAL 5 0 13; TEXT 6; NUMBER 1; PUT 0 0 14; DROP 2; RETURN 0 0 18");
         CHECK.code(0, "function a ( ) end", "CLOSURE 1; SETGLOBAL 1 0 1; RETURN 0 0 5");
         CHECK.code(0, "function a : b ( ) end", "GLOBAL 1 0 1; TEXT 2; CLOSURE 1; PUT 0 0 2; DROP 2; RETURN 0 0 7");
     }
@@ -194,6 +196,8 @@ public final class Promise8WhenTest {
     private static void returnOfARow() {
         CHECK.code(0, "return", "RETURN; RETURN 0 0 1");
         CHECK.code(0, "; return ;", "RETURN 0 0 1; RETURN 0 0 3");
+        CHECK.code(0, "a = ... return", "DOTS; FIT 1; SETGLOBAL 1; RETURN 0 0 3; RETURN 0 0 4");
+        CHECK.code(0, "f ( ... ) return", "GLOBAL 6; DOTS; CALL 0 1 1; RETURN 0 0 4; RETURN 0 0 5");
         CHECK.code(0, "return 1", "NUMBER 1; RETURN 1; RETURN 0 0 2");
         CHECK.code(0, "return ...", "DOTS; RETURN 0 1; RETURN 0 0 2");
         CHECK.code(0, "return ( ... )", "DOTS 0 1; RETURN 1; RETURN 0 0 4");
@@ -282,6 +286,12 @@ public final class Promise8WhenTest {
             + "JUMP 11; LEAVE 4; JUMP 3; LEAVE 4; FOREND; RETURN 0 0 7");
         CHECK.code(0, "while a do break break end",
             "STEP; GLOBAL 1 0 1; JUMPNO 6; JUMP 6; JUMP 6; JUMP; RETURN 0 0 6");
+        // Of the innermost loop, wherever the break stands in it.
+        CHECK.code(0, "while a do break while b do break end break end",
+            "STEP; GLOBAL 1 0 1; JUMPNO 11; JUMP 11; STEP 0 0 4; GLOBAL 2 0 5; JUMPNO 9; JUMP 9; JUMP 4; JUMP 11; JUMP; "
+            + "RETURN 0 0 11");
+        CHECK.code(0, "while a do break repeat until b end",
+            "STEP; GLOBAL 1 0 1; JUMPNO 8; JUMP 8; STEP 0 0 4; GLOBAL 2 0 6; JUMPNO 4; JUMP; RETURN 0 0 8");
     }
 
     // "LEAVE a = how many locals are there at its label (always; ..)"
@@ -298,6 +308,13 @@ public final class Promise8WhenTest {
             "STEP 0 0 1; LEAVE 1; JUMP 5; NIL; DECLARE 0 1 4; RETURN 0 0 9");
         CHECK.code(1, "local b function c ( d ) goto a :: a :: d ( ) end",
             "STEP 0 0 7; LEAVE 1; JUMP 3; LOCAL 0 0 12; CALL 0 0 13; RETURN 0 0 15");
+        // Of two gotos in a block one leads to its label there, the other one to a block around.
+        CHECK.code(0, "do goto a goto b :: a :: end c ( ) :: b :: d ( )",
+            "STEP 0 0 1; LEAVE; JUMP 6; STEP 0 0 3; LEAVE; JUMP 8; GLOBAL 3 0 9; CALL 0 0 10; GLOBAL 4 0 15; CALL 0 0 16; "
+            + "RETURN 0 0 18");
+        CHECK.code(0, "do goto b goto a :: a :: end c ( ) :: b :: d ( )",
+            "STEP 0 0 1; LEAVE; JUMP 8; STEP 0 0 3; LEAVE; JUMP 6; GLOBAL 3 0 9; CALL 0 0 10; GLOBAL 4 0 15; CALL 0 0 16; "
+            + "RETURN 0 0 18");
         // The innermost block's label, where two can be seen: the other one stands behind.
         CHECK.code(0, "do goto a :: a :: b ( ) end c ( ) :: a ::",
             "STEP 0 0 1; LEAVE; JUMP 3; GLOBAL 2 0 6; CALL 0 0 7; GLOBAL 3 0 10; CALL 0 0 11; RETURN 0 0 16");
